@@ -602,7 +602,6 @@ public final class FloodFerry {
       return firstPunts.get(from * MOST_LANDINGS + to);
     }
 
-    /** Reckons all chains anew. */
     void reckon() {
       lengths.fill(NONE);
       for (int to = 0; to < MOST_LANDINGS; to++) {
@@ -793,7 +792,7 @@ public final class FloodFerry {
     }
 
     boolean waitsAt(int traveller, int itsLanding) {
-      return landing.get(traveller) == itsLanding && !hasCome(traveller);
+      return landing.get(traveller) == itsLanding && cameAt.get(traveller) == NONE;
     }
 
     void getIn(int traveller, int itsPunt, int toll) {

@@ -24,7 +24,13 @@ final class ArrivesTest {
     Check.due("changes nothing", ferry.digest(), before);
     ferry.setToll(0, 4);
     Check.due("with a smaller toll", ferry.arrives(1), 16);
-    ferry.pass(30);
+    int[] stops = {0, 1, 5, 6, 8, 9, 12, 13, 17, 20, 25};
+    for (int stop = 1; stop < stops.length; stop++) {
+      ferry.pass(stops[stop] - stops[stop - 1]);
+      Check.due("from the hour " + stops[stop] + " on", ferry.arrives(0), 8);
+      Check.due("from the hour " + stops[stop] + " on", ferry.arrives(1), 16);
+      Check.due("from the hour " + stops[stop] + " on", ferry.arrives(3), 24);
+    }
     Check.due("who has come", ferry.arrives(0), 8);
     Check.due("who has come", ferry.arrives(1), 16);
     Check.due("who has come", ferry.traveller(3, 6), 24);

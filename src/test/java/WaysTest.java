@@ -6,6 +6,7 @@ final class WaysTest {
     openings();
     newGround();
     agrounds();
+    agroundOnItsWay();
     Check.end();
   }
 
@@ -92,6 +93,21 @@ final class WaysTest {
     Check.due("round it", ferry.crossing(0, 8), 4);
     ferry.setGround(1, 0, 7);
     Check.due("straight on again", ferry.crossing(0, 8), 2);
+  }
+
+  /** From each hour on it is what the hours themselves bring. */
+  private static void agroundOnItsWay() {
+    FloodFerry ferry = new FloodFerry();
+    ferry.addLanding(0, 0);
+    ferry.addLanding(5, 0);
+    ferry.launch(1, 0, 1, 12, 1, 0);
+    ferry.setGround(2, 0, 7);
+    ferry.setWater(11, 7);
+    Check.due("on the cell 4 at the hour 11, on 2 at 23", ferry.aground(0, 100), 23);
+    for (int hour = 1; hour <= 23; hour++) {
+      ferry.pass(1);
+      Check.due("from the hour " + hour + " on", ferry.aground(0, 100), 23 - hour);
+    }
   }
 
   private static void agrounds() {
