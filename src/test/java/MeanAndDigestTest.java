@@ -1,5 +1,8 @@
 /** Promises 20 and 21: mean and digest. */
 final class MeanAndDigestTest {
+  private static final int LAST_HOUR = 28;
+  private static final int[] LEVELS = {8, 9, 10, 11, 12, 8, 8, 8, 8, 6, 8, 7};
+
   public static void main(String[] args) {
     means();
     digests();
@@ -22,8 +25,15 @@ final class MeanAndDigestTest {
   }
 
   private static void digests() {
+    Check.due("digest() of a new object", new FloodFerry().digest(), newDigest());
+    for (int hour = 0; hour <= LAST_HOUR; hour++) {
+      Check.due("digest() at the hour " + hour, at(hour).digest(), digestByTheAnswers(hour));
+    }
+  }
+
+  /** The same calls for each object that is made for the same hour. */
+  private static FloodFerry at(int lastHour) {
     FloodFerry ferry = new FloodFerry();
-    Check.due("digest() of a new object", ferry.digest(), newDigest());
     ferry.addLanding(2, 3);
     ferry.addLanding(7, 8);
     ferry.addLanding(12, 1);
@@ -32,16 +42,15 @@ final class MeanAndDigestTest {
     ferry.addTraveller(1, 0, 1000);
     ferry.addTraveller(2, 0, 333);
     ferry.addTraveller(0, 2, 16);
-    int[] levels = {8, 9, 10, 11, 12, 8, 8, 8, 8, 6, 8, 7};
     for (int hour = 0; hour < 12; hour++) {
-      ferry.setWater(hour, levels[hour]);
+      ferry.setWater(hour, LEVELS[hour]);
     }
-    for (int hour = 0; hour < 60; hour++) {
+    for (int hour = 0; hour < lastHour; hour++) {
       ferry.setGround(hour % 14, hour % 13, hour % 7);
       ferry.setStake(hour % 13, hour % 14, hour % 10);
-      Check.due("digest() at the hour " + hour, ferry.digest(), digestByTheAnswers(ferry, levels));
       ferry.pass(1);
     }
+    return ferry;
   }
 
   private static long newDigest() {
@@ -59,18 +68,25 @@ final class MeanAndDigestTest {
     return sum;
   }
 
-  private static long digestByTheAnswers(FloodFerry ferry, int[] levels) {
+  /** By two objects, as one is used for 512 calls at most. */
+  private static long digestByTheAnswers(int hour) {
+    FloodFerry ferry = at(hour);
     long sum = 557;
     for (int what = 0; what <= 10; what++) {
       sum = sum * 31 + ferry.count(what);
     }
-    for (int level : levels) {
+    for (int level : LEVELS) {
       sum = sum * 31 + level;
     }
     for (int cell = 0; cell < 196; cell++) {
       sum = sum * 31 + ferry.cell(cell % 14, cell / 14, 0);
       sum = sum * 31 + ferry.cell(cell % 14, cell / 14, 2);
     }
+    return digestOfTheRest(at(hour), sum);
+  }
+
+  private static long digestOfTheRest(FloodFerry ferry, long start) {
+    long sum = start;
     for (int landing = 0; landing < ferry.count(2); landing++) {
       for (int what = 0; what <= 4; what++) {
         sum = sum * 31 + ferry.landing(landing, what);

@@ -1,11 +1,16 @@
-/** Long runs of calls, drawn by a fixed series of numbers, against the model. */
+/**
+ * Runs of 512 calls, drawn by a fixed series of numbers, against the model. Some of the calls are
+ * refused; that they change nothing shows in the calls that follow.
+ */
 final class ModelTest {
-  private static final int RUNS = 120;
+  private static final int RUNS = 300;
   private static final int CALLS = 512;
 
   private long series = 20261119;
   private FloodFerry ferry;
   private Model model;
+  private int calls;
+  private String where;
 
   public static void main(String[] args) {
     ModelTest test = new ModelTest();
@@ -20,40 +25,107 @@ final class ModelTest {
     return (int) ((series >>> 33) % most);
   }
 
+  /** Each call goes by this, so that none is one too many. */
+  private FloodFerry call() {
+    calls++;
+    return ferry;
+  }
+
+  private void due(String what, long got, long want) {
+    Check.due(where + ", call " + calls + ": " + what, got, want);
+  }
+
   private void run(int run) {
     ferry = new FloodFerry();
     model = new Model();
-    int calls = 0;
-    for (int hour = 0; hour < 12 && run % 3 != 0; hour++, calls++) {
-      int level = 6 + draw(5);
-      Check.due("setWater", ferry.setWater(hour, level), model.table[hour]);
-      model.table[hour] = level;
+    calls = 0;
+    where = "run " + run;
+    for (int hour = 0; hour < 12 && run % 3 != 0; hour++) {
+      setWater(hour, 6 + draw(5));
     }
-    for (int left = draw(100); left > 0; left--, calls++) {
+    for (int left = draw(run % 2 == 0 ? 100 : 30); left > 0; left--) {
       setGround(draw(14), draw(14), 2 + draw(8));
     }
-    for (int left = 3 + draw(3); left > 0; left--, calls++) {
+    for (int left = 3 + draw(3); left > 0; left--) {
       addLanding(draw(14), draw(14));
     }
-    for (int left = 2 + draw(4); left > 0; left--, calls++) {
+    for (int left = 2 + draw(4); left > 0; left--) {
       launch();
     }
-    for (; calls < CALLS - 1; calls++) {
-      change();
-      ask(run + ", " + calls);
+    while (calls < CALLS - 1) {
+      step();
     }
-    Check.due("run " + run + ": digest()", ferry.digest(), digest());
+    due("digest()", call().digest(), digest());
+  }
+
+  private void step() {
+    int kind = draw(20);
+    if (kind == 0) {
+      refuse();
+    } else if (kind < 8) {
+      change();
+    } else if (kind < 19) {
+      ask();
+    } else {
+      lookAhead();
+    }
+  }
+
+  // ---- calls that change something
+
+  private void change() {
+    switch (draw(12)) {
+      case 0:
+        setGround(draw(14), draw(14), 2 + draw(8));
+        break;
+      case 1:
+        setWater(draw(12), draw(4) == 0 ? draw(25) : 6 + draw(6));
+        break;
+      case 2:
+        int x = draw(14);
+        int y = draw(14);
+        int length = draw(10);
+        due("setStake", call().setStake(x, y, length), model.stake[x][y]);
+        model.stake[x][y] = length;
+        break;
+      case 3:
+        addOrLaunch();
+        break;
+      case 4:
+        setToll();
+        break;
+      case 5:
+      case 6:
+        addTraveller();
+        break;
+      default:
+        pass(draw(5) == 0 ? 1 + draw(60) : 1 + draw(8));
+    }
+  }
+
+  private void addOrLaunch() {
+    int chance = draw(20);
+    if (chance == 0) {
+      addLanding(draw(14), draw(14));
+    } else if (chance == 1) {
+      launch();
+    }
   }
 
   private void setGround(int x, int y, int ground) {
-    Check.due("setGround", ferry.setGround(x, y, ground), model.ground[x][y]);
+    due("setGround", call().setGround(x, y, ground), model.ground[x][y]);
     model.ground[x][y] = ground;
+  }
+
+  private void setWater(int hour, int level) {
+    due("setWater", call().setWater(hour, level), model.table[hour]);
+    model.table[hour] = level;
   }
 
   private void addLanding(int x, int y) {
     if (model.landings.size() < 8 && model.landingOn(x, y) < 0) {
       model.landings.add(new int[] {x, y});
-      Check.due("addLanding", ferry.addLanding(x, y), model.landings.size() - 1);
+      due("addLanding", call().addLanding(x, y), model.landings.size() - 1);
     }
   }
 
@@ -66,55 +138,16 @@ final class ModelTest {
       int room = 1 + draw(6);
       int toll = draw(20);
       int number = model.launch(home, goal, draught, pole, room, toll);
-      Check.due("launch", ferry.launch(home, goal, draught, pole, room, toll), number);
+      due("launch", call().launch(home, goal, draught, pole, room, toll), number);
     }
   }
 
-  private void change() {
-    int x = draw(14);
-    int y = draw(14);
-    switch (draw(30)) {
-      case 0:
-        setGround(x, y, 2 + draw(8));
-        break;
-      case 1:
-        int hour = draw(12);
-        int level = draw(4) == 0 ? draw(25) : 6 + draw(6);
-        Check.due("setWater", ferry.setWater(hour, level), model.table[hour]);
-        model.table[hour] = level;
-        break;
-      case 2:
-        int length = draw(10);
-        Check.due("setStake", ferry.setStake(x, y, length), model.stake[x][y]);
-        model.stake[x][y] = length;
-        break;
-      case 3:
-        if (draw(10) == 0) {
-          addLanding(x, y);
-        }
-        break;
-      case 4:
-        if (draw(10) == 0) {
-          launch();
-        }
-        break;
-      case 5:
-        if (!model.punts.isEmpty()) {
-          int punt = draw(model.punts.size());
-          int toll = draw(30);
-          Check.due("setToll", ferry.setToll(punt, toll), model.punts.get(punt).toll);
-          model.punts.get(punt).toll = toll;
-        }
-        break;
-      case 6:
-      case 7:
-        addTraveller();
-        break;
-      case 8:
-      case 9:
-        pass(draw(5) == 0 ? 1 + draw(60) : 1 + draw(8));
-        break;
-      default:
+  private void setToll() {
+    if (!model.punts.isEmpty()) {
+      int punt = draw(model.punts.size());
+      int toll = draw(30);
+      due("setToll", call().setToll(punt, toll), model.punts.get(punt).toll);
+      model.punts.get(punt).toll = toll;
     }
   }
 
@@ -124,7 +157,7 @@ final class ModelTest {
     if (from != to && model.travellers.size() < 30) {
       int purse = draw(3) == 0 ? draw(15) : draw(200);
       int number = model.addTraveller(from, to, purse);
-      Check.due("addTraveller", ferry.addTraveller(from, to, purse), number);
+      due("addTraveller", call().addTraveller(from, to, purse), number);
     }
   }
 
@@ -133,38 +166,126 @@ final class ModelTest {
     for (int hour = 0; hour < hours; hour++) {
       came += model.hour();
     }
-    Check.due("pass(" + hours + ")", ferry.pass(hours), came);
+    due("pass(" + hours + ")", call().pass(hours), came);
   }
 
-  private void ask(String where) {
-    int punt = draw(Math.max(1, model.punts.size()));
-    int traveller = draw(Math.max(1, model.travellers.size()));
-    int landing = draw(model.landings.size());
+  // ---- calls that tell something
+
+  private void ask() {
     int what = draw(11);
-    Check.due(where + ": count", ferry.count(what), model.count(what));
-    int x = draw(14);
-    int y = draw(14);
-    Check.due(where + ": cell", ferry.cell(x, y, what % 6), model.cell(x, y, what % 6));
-    Check.due(where + ": landing", ferry.landing(landing, what % 5), model.landing(landing, what % 5));
-    int to = draw(model.landings.size());
-    Check.due(where + ": chain", ferry.chain(landing, to, what % 3), model.chain(landing, to)[what % 3]);
-    Check.due(where + ": mean", ferry.mean(), model.mean());
-    if (!model.punts.isEmpty()) {
-      Check.due(where + ": punt", ferry.punt(punt, what % 9), model.punt(punt, what % 9));
-      int level = draw(25);
-      Check.due(where + ": crossing", ferry.crossing(punt, level), model.crossing(punt, level));
-      if (what == 0) {
-        Check.due(where + ": opens", ferry.opens(punt), model.opens(punt));
-        int hours = 1 + draw(100);
-        Check.due(where + ": aground", ferry.aground(punt, hours), model.aground(punt, hours));
-      }
+    switch (draw(7)) {
+      case 0:
+        due("count", call().count(what), model.count(what));
+        break;
+      case 1:
+        int x = draw(14);
+        int y = draw(14);
+        due("cell", call().cell(x, y, what % 6), model.cell(x, y, what % 6));
+        break;
+      case 2:
+        int landing = draw(model.landings.size());
+        due("landing", call().landing(landing, what % 5), model.landing(landing, what % 5));
+        break;
+      case 3:
+        int from = draw(model.landings.size());
+        int to = draw(model.landings.size());
+        due("chain", call().chain(from, to, what % 3), model.chain(from, to)[what % 3]);
+        break;
+      case 4:
+        Check.due(where + ", call " + calls + ": mean", call().mean(), model.mean());
+        break;
+      case 5:
+        askOfPunt(what % 9);
+        break;
+      default:
+        askOfTraveller(what % 7);
     }
+  }
+
+  private void askOfPunt(int what) {
+    if (!model.punts.isEmpty()) {
+      int punt = draw(model.punts.size());
+      due("punt(" + punt + ", " + what + ")", call().punt(punt, what), model.punt(punt, what));
+    }
+  }
+
+  private void askOfTraveller(int what) {
     if (!model.travellers.isEmpty()) {
-      what = what % 7;
-      Check.due(where + ": traveller", ferry.traveller(traveller, what), model.traveller(traveller, what));
-      if (draw(40) == 0) {
-        Check.due(where + ": arrives", ferry.arrives(traveller), model.arrives(traveller));
-      }
+      int traveller = draw(model.travellers.size());
+      String asked = "traveller(" + traveller + ", " + what + ")";
+      due(asked, call().traveller(traveller, what), model.traveller(traveller, what));
+    }
+  }
+
+  private void lookAhead() {
+    if (model.punts.isEmpty()) {
+      return;
+    }
+    int punt = draw(model.punts.size());
+    switch (draw(5)) {
+      case 0:
+        due("opens", call().opens(punt), model.opens(punt));
+        break;
+      case 1:
+        int hours = 1 + draw(100);
+        due("aground(.., " + hours + ")", call().aground(punt, hours), model.aground(punt, hours));
+        break;
+      case 2:
+        if (!model.travellers.isEmpty()) {
+          int traveller = draw(model.travellers.size());
+          due("arrives", call().arrives(traveller), model.arrives(traveller));
+        }
+        break;
+      default:
+        int level = draw(25);
+        due("crossing", call().crossing(punt, level), model.crossing(punt, level));
+    }
+  }
+
+  // ---- calls that are refused
+
+  private void refuse() {
+    int kind = draw(8);
+    String got = "an answer";
+    try {
+      refused(kind);
+    } catch (IndexOutOfBoundsException e) {
+      got = "index";
+    } catch (IllegalArgumentException e) {
+      got = "argument";
+    } catch (IllegalStateException e) {
+      got = "state";
+    }
+    String want = kind < 4 ? "index" : kind < 7 ? "argument" : "state";
+    Check.due(where + ", call " + calls + ": the refused call " + kind, got, want);
+  }
+
+  private void refused(int kind) {
+    int[] first = model.landings.get(0);
+    switch (kind) {
+      case 0:
+        call().setGround(draw(14), 14, draw(21));
+        break;
+      case 1:
+        call().launch(0, model.landings.size(), 1, 12, 1, 0);
+        break;
+      case 2:
+        call().addTraveller(model.landings.size(), 0, 0);
+        break;
+      case 3:
+        call().setToll(model.punts.size(), 0);
+        break;
+      case 4:
+        call().setWater(draw(12), 25);
+        break;
+      case 5:
+        call().launch(0, 1, 1, 12, 7, 0);
+        break;
+      case 6:
+        call().pass(101);
+        break;
+      default:
+        call().addLanding(first[0], first[1]);
     }
   }
 
