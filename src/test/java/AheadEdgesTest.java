@@ -9,6 +9,9 @@ final class AheadEdgesTest {
     crossingOnItsDraughtAndItsPole();
     crossingNeedsBothEnds();
     crossingWhateverIsNow();
+    crossingInAnyOrder();
+    noCrossingRoundTheEdge();
+    theHighestWaterAndTheLowest();
     opensRefused();
     opensAtTheFirstLevel();
     opensAtTheLastLevel();
@@ -139,6 +142,66 @@ final class AheadEdgesTest {
       Check.due("at the hour " + hour, ferry.crossing(0, 8), 3);
       Check.due("opens at the hour " + hour, ferry.opens(0), 6);
       ferry.pass(1);
+    }
+  }
+
+  /** The same: whatever levels have been asked for before. */
+  private static void crossingInAnyOrder() {
+    FloodFerry ferry = ferryBetween(0, 0, 13, 13);
+    ferry.launch(1, 0, 1, 12, 1, 0);
+    for (int round = 0; round < 4; round++) {
+      for (int step = 0; step <= 24; step++) {
+        int level = round % 2 == 0 ? 24 - step : step;
+        int due = level >= 6 && level <= 17 ? 26 : -1;
+        Check.due("there at the level " + level, ferry.crossing(0, level), due);
+        Check.due("back at the level " + level, ferry.crossing(1, level), due);
+      }
+    }
+  }
+
+  /** The plain ends with its columns and rows: no way goes round a wall through all of them. */
+  private static void noCrossingRoundTheEdge() {
+    FloodFerry column = ferryBetween(5, 0, 9, 13);
+    FloodFerry row = ferryBetween(5, 0, 9, 13);
+    for (int cell = 0; cell < 14; cell++) {
+      column.setGround(7, cell, 20);
+      row.setGround(cell, 7, 20);
+    }
+    for (int step = 0; step <= 48; step++) {
+      int level = Math.abs(24 - step);
+      Check.due("over a column at the level " + level, column.crossing(0, level), -1);
+      Check.due("over a row at the level " + level, row.crossing(0, level), -1);
+    }
+  }
+
+  /** "a level of the water": a way in the highest is none in the lowest, for the first punt to the last. */
+  private static void theHighestWaterAndTheLowest() {
+    FloodFerry ferry = new FloodFerry();
+    ferry.addLanding(0, 0);
+    ferry.addLanding(1, 0);
+    ferry.setGround(0, 0, 15);
+    ferry.setGround(1, 0, 15);
+    ferry.setWater(0, 24);
+    ferry.setWater(1, 24);
+    for (int punt = 0; punt < 6; punt++) {
+      ferry.launch(0, 1, 1, 12, 1, 0);
+    }
+    ferry.pass(2);
+    for (int punt = 0; punt < 6; punt++) {
+      Check.due("at the level 24", ferry.crossing(punt, 24), 1);
+      Check.due("at the level 23", ferry.crossing(punt, 23), 1);
+      Check.due("bound for its home", ferry.punt(punt, 2), 0);
+    }
+    for (int level = 0; level <= 1; level++) {
+      ferry.setWater(2, level);
+      for (int punt = 0; punt < 6; punt++) {
+        Check.due("no way now at the level " + level, ferry.punt(punt, 6), -1);
+        Check.due("no crossing at the level " + level, ferry.crossing(punt, level), -1);
+      }
+    }
+    ferry.setWater(2, 24);
+    for (int punt = 0; punt < 6; punt++) {
+      Check.due("at its end at the level 24", ferry.punt(punt, 6), 0);
     }
   }
 
