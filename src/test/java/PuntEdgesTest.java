@@ -24,6 +24,7 @@ final class PuntEdgesTest {
     floats();
     aNewPunt();
     aNewPuntAground();
+    aNewPuntInALaterHour();
     puntRefused();
     wayOfNoStep();
     wayOfOneStep();
@@ -331,6 +332,22 @@ final class PuntEdgesTest {
     }
     ferry.pass(1);
     expectPlace("it stays", ferry, 2, 2);
+  }
+
+  /** The same when hours have gone by, with no punt and with others: it goes there and back. */
+  private static void aNewPuntInALaterHour() {
+    FloodFerry ferry = withTwoLandings();
+    for (int punt = 0; punt < 6; punt++) {
+      ferry.pass(13);
+      Check.due("its number", ferry.launch(1, 0, 1, 12, 1, 0), punt);
+      Check.due("crossing", ferry.crossing(punt, 8), 4);
+      int[] columns = {6, 5, 4, 3, 2, 3, 4, 5, 6, 5};
+      for (int hour = 0; hour < columns.length; hour++) {
+        Check.due("its x behind " + hour + " hours", ferry.punt(punt, 0), columns[hour]);
+        Check.due("its steps behind " + hour + " hours", ferry.punt(punt, 8), hour);
+        ferry.pass(1);
+      }
+    }
   }
 
   /** "Throws IndexOutOfBoundsException if there is no such punt, or what is not 0 to 8". */
