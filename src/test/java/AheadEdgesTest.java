@@ -17,6 +17,7 @@ final class AheadEdgesTest {
     opensAtTheLastLevel();
     opensAtNone();
     opensAtTheLeastOfMany();
+    opensOnBothSidesOfAGap();
     chainRefused();
     chainOfNoPunts();
     chainToTheSameLanding();
@@ -271,6 +272,26 @@ final class AheadEdgesTest {
     Check.due("no way round it", ferry.opens(0), 12);
     ferry.setGround(1, 13, 7);
     Check.due("one way round it", ferry.opens(0), 8);
+  }
+
+  /** The same: low water opens one way and high water another one; between them there is none. */
+  private static void opensOnBothSidesOfAGap() {
+    FloodFerry ferry = new FloodFerry();
+    ferry.addLanding(0, 0);
+    ferry.addLanding(2, 0);
+    ferry.launch(0, 1, 1, 4, 1, 0);
+    for (int y = 0; y < 14; y++) {
+      ferry.setGround(1, y, 20);
+    }
+    ferry.setGround(1, 2, 2);
+    ferry.setGround(1, 1, 7);
+    int[] crossings = {-1, 6, -1, 4, 4, -1};
+    for (int level = 5; level <= 10; level++) {
+      Check.due("at the level " + level, ferry.crossing(0, level), crossings[level - 5]);
+    }
+    Check.due("the lower way", ferry.opens(0), 6);
+    ferry.setGround(1, 2, 1);
+    Check.due("the upper way, as the lower one is too deep", ferry.opens(0), 8);
   }
 
   /** "Throws IndexOutOfBoundsException if there is no such landing, or what is not 0 to 2". */

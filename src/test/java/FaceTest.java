@@ -59,12 +59,18 @@ final class FaceTest {
   private static void checkRest(Map<String, String> due) {
     int modifiers = FloodFerry.class.getModifiers();
     Check.due("public and final", modifiers, Modifier.PUBLIC | Modifier.FINAL);
-    Constructor<?>[] constructors = FloodFerry.class.getDeclaredConstructors();
-    Check.due("constructors", constructors.length, 1);
+    Constructor<?>[] constructors = FloodFerry.class.getConstructors();
+    Check.due("public constructors", constructors.length, 1);
     Check.due("its parameters", constructors[0].getParameterCount(), 0);
+    for (Constructor<?> constructor : FloodFerry.class.getDeclaredConstructors()) {
+      int shown = constructor.getModifiers() & (Modifier.PUBLIC | Modifier.PRIVATE);
+      Check.due(constructor + " is public or private", shown != 0 ? 1 : 0, 1);
+    }
     for (Field field : FloodFerry.class.getDeclaredFields()) {
-      Check.due(field + " is private", field.getModifiers() & Modifier.PRIVATE, Modifier.PRIVATE);
-      Check.due(field + " is final", field.getModifiers() & Modifier.FINAL, Modifier.FINAL);
+      int shown = field.getModifiers();
+      Check.due(field + " is private", shown & Modifier.PRIVATE, Modifier.PRIVATE);
+      boolean changes = Modifier.isStatic(shown) && !Modifier.isFinal(shown);
+      Check.due(field + " is static and changes", changes ? 1 : 0, 0);
     }
     for (Method method : FloodFerry.class.getDeclaredMethods()) {
       if (!Modifier.isPublic(method.getModifiers())) {

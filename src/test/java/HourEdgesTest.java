@@ -36,6 +36,7 @@ final class HourEdgesTest {
     allAgroundAndNone();
     allInPunts();
     tollsInAll();
+    tollsToOnePunt();
     Check.end();
   }
 
@@ -558,5 +559,21 @@ final class HourEdgesTest {
     }
     ferry.pass(100);
     Check.due("and no more", ferry.count(8), 1500);
+  }
+
+  /** "7 what it has taken in tolls": all that all can pay, to one punt, six at a time. */
+  private static void tollsToOnePunt() {
+    FloodFerry ferry = withOnePunt(6, 50);
+    for (int traveller = 0; traveller < 30; traveller++) {
+      ferry.addTraveller(0, 1, 1000);
+    }
+    for (int times = 1; times <= 5; times++) {
+      ferry.pass(2);
+      Check.due("taken by it", ferry.punt(0, 7), times * 300);
+      Check.due("taken in all", ferry.count(8), times * 300);
+    }
+    ferry.pass(2);
+    Check.due("and no more", ferry.punt(0, 7), 1500);
+    Check.due("all have come", ferry.count(7), 30);
   }
 }

@@ -4,21 +4,25 @@ import java.util.List;
 
 /** The document once more, in another way and without regard to speed, for ModelTest. */
 final class Model {
-  static final class Punt {
+  private static final int SIDE = 14;
+  private static final int CELLS = SIDE * SIDE;
+  private static final int TABLE_HOURS = 12;
+
+  private static final class Punt {
     int home, goal, draught, pole, room, toll, x, y, bound, taken, steps;
   }
 
-  static final class Traveller {
+  private static final class Traveller {
     int wish, purse, landing, punt = -1, hour = -1;
   }
 
-  int hour;
-  final int[] table = new int[12];
-  final int[][] ground = new int[14][14];
-  final int[][] stake = new int[14][14];
-  final List<int[]> landings = new ArrayList<>();
-  final List<Punt> punts = new ArrayList<>();
-  final List<Traveller> travellers = new ArrayList<>();
+  private int hour;
+  private final int[] table = new int[TABLE_HOURS];
+  private final int[][] ground = new int[SIDE][SIDE];
+  private final int[][] stake = new int[SIDE][SIDE];
+  private final List<int[]> landings = new ArrayList<>();
+  private final List<Punt> punts = new ArrayList<>();
+  private final List<Traveller> travellers = new ArrayList<>();
 
   Model() {
     java.util.Arrays.fill(table, 8);
@@ -27,12 +31,12 @@ final class Model {
     }
   }
 
-  Model copy() {
+  private Model copy() {
     Model copy = new Model();
     copy.hour = hour;
-    System.arraycopy(table, 0, copy.table, 0, 12);
-    for (int x = 0; x < 14; x++) {
-      System.arraycopy(ground[x], 0, copy.ground[x], 0, 14);
+    System.arraycopy(table, 0, copy.table, 0, TABLE_HOURS);
+    for (int x = 0; x < SIDE; x++) {
+      System.arraycopy(ground[x], 0, copy.ground[x], 0, SIDE);
     }
     copy.landings.addAll(landings);
     for (Punt punt : punts) {
@@ -60,9 +64,74 @@ final class Model {
     return copy;
   }
 
-  // ---- answers; who calls has looked at the arguments
+  // ---- what a call needs
+
+  private static void index(boolean holds) {
+    if (!holds) {
+      throw new IndexOutOfBoundsException();
+    }
+  }
+
+  private static void argument(boolean holds) {
+    if (!holds) {
+      throw new IllegalArgumentException();
+    }
+  }
+
+  private static void state(boolean holds) {
+    if (!holds) {
+      throw new IllegalStateException();
+    }
+  }
+
+  private static boolean within(int number, int least, int most) {
+    return least <= number && number <= most;
+  }
+
+  private static boolean isCell(int x, int y) {
+    return within(x, 0, 13) && within(y, 0, 13);
+  }
+
+  private boolean isLanding(int landing) {
+    return within(landing, 0, landings.size() - 1);
+  }
+
+  private boolean isPunt(int punt) {
+    return within(punt, 0, punts.size() - 1);
+  }
+
+  private boolean isTraveller(int traveller) {
+    return within(traveller, 0, travellers.size() - 1);
+  }
+
+  // ---- the public face
+
+  int setGround(int x, int y, int itsGround) {
+    index(isCell(x, y));
+    argument(within(itsGround, 0, 20));
+    int before = ground[x][y];
+    ground[x][y] = itsGround;
+    return before;
+  }
+
+  int setWater(int tableHour, int level) {
+    index(within(tableHour, 0, 11));
+    argument(within(level, 0, 24));
+    int before = table[tableHour];
+    table[tableHour] = level;
+    return before;
+  }
+
+  int setStake(int x, int y, int length) {
+    index(isCell(x, y));
+    argument(within(length, 0, 9));
+    int before = stake[x][y];
+    stake[x][y] = length;
+    return before;
+  }
 
   int cell(int x, int y, int what) {
+    index(isCell(x, y) && within(what, 0, 5));
     int depth = depth(x, y, level());
     switch (what) {
       case 0: return ground[x][y];
@@ -74,7 +143,7 @@ final class Model {
     }
   }
 
-  int landingOn(int x, int y) {
+  private int landingOn(int x, int y) {
     for (int landing = 0; landing < landings.size(); landing++) {
       if (landings.get(landing)[0] == x && landings.get(landing)[1] == y) {
         return landing;
@@ -83,7 +152,18 @@ final class Model {
     return -1;
   }
 
+  int addLanding(int x, int y) {
+    index(isCell(x, y));
+    state(landingOn(x, y) == -1 && landings.size() < 8);
+    landings.add(new int[] {x, y});
+    return landings.size() - 1;
+  }
+
   int launch(int home, int goal, int draught, int pole, int room, int toll) {
+    index(isLanding(home) && isLanding(goal));
+    argument(home != goal && within(draught, 1, 4) && within(pole, 2, 12));
+    argument(within(room, 1, 6) && within(toll, 0, 50));
+    state(punts.size() < 6);
     Punt punt = new Punt();
     punt.home = home;
     punt.goal = goal;
@@ -98,16 +178,16 @@ final class Model {
     return punts.size() - 1;
   }
 
-  int addTraveller(int from, int to, int purse) {
-    Traveller traveller = new Traveller();
-    traveller.wish = to;
-    traveller.purse = purse;
-    traveller.landing = from;
-    travellers.add(traveller);
-    return travellers.size() - 1;
+  int setToll(int punt, int toll) {
+    index(isPunt(punt));
+    argument(within(toll, 0, 50));
+    int before = punts.get(punt).toll;
+    punts.get(punt).toll = toll;
+    return before;
   }
 
   int punt(int number, int what) {
+    index(isPunt(number) && within(what, 0, 8));
     Punt punt = punts.get(number);
     switch (what) {
       case 0: return punt.x;
@@ -122,7 +202,20 @@ final class Model {
     }
   }
 
+  int addTraveller(int from, int to, int purse) {
+    index(isLanding(from) && isLanding(to));
+    argument(from != to && within(purse, 0, 1000));
+    state(travellers.size() < 30);
+    Traveller traveller = new Traveller();
+    traveller.wish = to;
+    traveller.purse = purse;
+    traveller.landing = from;
+    travellers.add(traveller);
+    return travellers.size() - 1;
+  }
+
   int traveller(int number, int what) {
+    index(isTraveller(number) && within(what, 0, 6));
     Traveller traveller = travellers.get(number);
     switch (what) {
       case 0: return traveller.wish;
@@ -147,6 +240,7 @@ final class Model {
   }
 
   int landing(int number, int what) {
+    index(isLanding(number) && within(what, 0, 4));
     switch (what) {
       case 0: return landings.get(number)[0];
       case 1: return landings.get(number)[1];
@@ -158,7 +252,17 @@ final class Model {
     }
   }
 
+  int pass(int hours) {
+    argument(within(hours, 1, 100));
+    int came = 0;
+    for (int gone = 0; gone < hours; gone++) {
+      came += hour();
+    }
+    return came;
+  }
+
   int count(int what) {
+    index(within(what, 0, 10));
     switch (what) {
       case 0: return hour;
       case 1: return level();
@@ -176,8 +280,8 @@ final class Model {
 
   private int stakesSeen() {
     int seen = 0;
-    for (int x = 0; x < 14; x++) {
-      for (int y = 0; y < 14; y++) {
+    for (int x = 0; x < SIDE; x++) {
+      for (int y = 0; y < SIDE; y++) {
         seen += cell(x, y, 3);
       }
     }
@@ -185,12 +289,15 @@ final class Model {
   }
 
   int crossing(int number, int level) {
+    index(isPunt(number));
+    argument(within(level, 0, 24));
     Punt punt = punts.get(number);
     int[] home = landings.get(punt.home);
     return way(punt, home[0], home[1], punt.goal, level)[0];
   }
 
   int opens(int number) {
+    index(isPunt(number));
     int level = 0;
     while (level <= 24 && crossing(number, level) < 0) {
       level++;
@@ -198,7 +305,14 @@ final class Model {
     return level <= 24 ? level : -1;
   }
 
+  int chain(int from, int to, int what) {
+    index(isLanding(from) && isLanding(to) && within(what, 0, 2));
+    return chain(from, to)[what];
+  }
+
   int aground(int number, int hours) {
+    index(isPunt(number));
+    argument(within(hours, 1, 100));
     Model later = copy();
     for (int behind = 0; behind <= hours; behind++) {
       if (later.punt(number, 5) == 1) {
@@ -210,6 +324,7 @@ final class Model {
   }
 
   int arrives(int number) {
+    index(isTraveller(number));
     if (travellers.get(number).hour >= 0) {
       return travellers.get(number).hour;
     }
@@ -225,18 +340,42 @@ final class Model {
 
   double mean() {
     double sum = 0;
-    for (int x = 0; x < 14; x++) {
-      for (int y = 0; y < 14; y++) {
+    for (int x = 0; x < SIDE; x++) {
+      for (int y = 0; y < SIDE; y++) {
         sum += cell(x, y, 1);
       }
     }
-    return sum / 196;
+    return sum / CELLS;
+  }
+
+  long digest() {
+    long sum = 557;
+    for (int what = 0; what <= 10; what++) {
+      sum = sum * 31 + count(what);
+    }
+    for (int level : table) {
+      sum = sum * 31 + level;
+    }
+    for (int cell = 0; cell < CELLS; cell++) {
+      sum = sum * 31 + ground[cell % SIDE][cell / SIDE];
+      sum = sum * 31 + stake[cell % SIDE][cell / SIDE];
+    }
+    for (int number = 0; number < landings.size() * 5; number++) {
+      sum = sum * 31 + landing(number / 5, number % 5);
+    }
+    for (int number = 0; number < punts.size() * 9; number++) {
+      sum = sum * 31 + punt(number / 9, number % 9);
+    }
+    for (int number = 0; number < travellers.size() * 7; number++) {
+      sum = sum * 31 + traveller(number / 7, number % 7);
+    }
+    return sum;
   }
 
   // ---- water and ways
 
-  int level() {
-    return table[hour % 12];
+  private int level() {
+    return table[hour % TABLE_HOURS];
   }
 
   private int depth(int x, int y, int level) {
@@ -253,13 +392,13 @@ final class Model {
    * keeps the smallest first step with which it is reached soonest.
    */
   private int[] way(Punt punt, int x, int y, int landing, int level) {
-    int end = landings.get(landing)[0] + 14 * landings.get(landing)[1];
-    int start = x + 14 * y;
+    int end = landings.get(landing)[0] + SIDE * landings.get(landing)[1];
+    int start = x + SIDE * y;
     if (!floats(punt, x, y, level)) {
       return new int[] {-1, -1};
     }
-    int[] steps = new int[196];
-    int[] first = new int[196];
+    int[] steps = new int[CELLS];
+    int[] first = new int[CELLS];
     java.util.Arrays.fill(steps, -1);
     java.util.Arrays.fill(first, 999);
     steps[start] = 0;
@@ -267,12 +406,12 @@ final class Model {
     open.add(start);
     while (!open.isEmpty()) {
       int here = open.remove();
-      for (int there : new int[] {here - 14, here - 1, here + 1, here + 14}) {
-        if (there < 0 || there >= 196) {
+      for (int there : new int[] {here - SIDE, here - 1, here + 1, here + SIDE}) {
+        if (there < 0 || there >= CELLS) {
           continue;
         }
-        boolean besides = Math.abs(there % 14 - here % 14) + Math.abs(there / 14 - here / 14) == 1;
-        if (besides && floats(punt, there % 14, there / 14, level)) {
+        boolean besides = Math.abs(there % SIDE - here % SIDE) + Math.abs(there / SIDE - here / SIDE) == 1;
+        if (besides && floats(punt, there % SIDE, there / SIDE, level)) {
           if (steps[there] < 0) {
             steps[there] = steps[here] + 1;
             open.add(there);
@@ -288,7 +427,7 @@ final class Model {
 
   // ---- chains, by trying all of them
 
-  int[] chain(int from, int to) {
+  private int[] chain(int from, int to) {
     int[] best = {-1, -1, -1};
     if (from == to) {
       return new int[] {0, -1, 0};
@@ -319,7 +458,7 @@ final class Model {
 
   // ---- an hour
 
-  int hour() {
+  private int hour() {
     int came = 0;
     for (int number = 0; number < punts.size(); number++) {
       Punt punt = punts.get(number);
@@ -331,8 +470,8 @@ final class Model {
     for (Punt punt : punts) {
       int step = way(punt, punt.x, punt.y, punt.bound, level())[1];
       if (step >= 0) {
-        punt.x = step % 14;
-        punt.y = step / 14;
+        punt.x = step % SIDE;
+        punt.y = step / SIDE;
         punt.steps++;
       }
     }

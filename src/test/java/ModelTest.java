@@ -1,321 +1,227 @@
 /**
- * Runs of 512 calls, drawn by a fixed series of numbers, against the model. Some of the calls are
- * refused; that they change nothing shows in the calls that follow.
+ * Runs of 512 calls, drawn by a fixed series of numbers, against the model. Some of the arguments
+ * are at their bounds or behind them; that a refused call changes nothing shows in the calls that
+ * follow, above all in digest().
  */
 final class ModelTest {
-  private static final int RUNS = 300;
-  private static final int CALLS = 512;
+  /** What kind of run it is: what is there at first, and how much may happen at once. */
+  private enum Kind {
+    /** Some of all on the whole plain: long ways, much ground and water that changes. */
+    WIDE(100, 14, 3, 2, 0, 9, 60),
+    /** Much on a small part of it: many who change from punt to punt. */
+    CROWDED(120, 6, 6, 5, 12, 3, 12),
+    /** Two landings and all for them: much paid to few punts. */
+    PAIRED(40, 3, 2, 1, 20, 9, 12),
+    /** As many hours as the calls can bring. */
+    LONG(8, 9, 6, 4, 8, 100, 100);
 
-  private long series = 20261119;
-  private FloodFerry ferry;
-  private Model model;
-  private int calls;
-  private String where;
+    final int runs;
+    final int side;
+    final int landings;
+    final int punts;
+    final int travellers;
+    final int hours;
+    final int hoursAtMost;
+
+    Kind(int runs, int side, int landings, int punts, int travellers, int hours, int hoursAtMost) {
+      this.runs = runs;
+      this.side = side;
+      this.landings = landings;
+      this.punts = punts;
+      this.travellers = travellers;
+      this.hours = hours;
+      this.hoursAtMost = hoursAtMost;
+    }
+  }
+
+  private static long series = 20261119;
+
+  private final Kind kind;
+  private final Pair pair;
+
+  private ModelTest(Kind kind, int run) {
+    this.kind = kind;
+    pair = new Pair(kind + " run " + run);
+  }
 
   public static void main(String[] args) {
-    ModelTest test = new ModelTest();
-    for (int run = 0; run < RUNS; run++) {
-      test.run(run);
+    for (Kind kind : Kind.values()) {
+      for (int run = 0; run < kind.runs; run++) {
+        new ModelTest(kind, run).run(run);
+      }
     }
     Check.end();
   }
 
-  private int draw(int most) {
+  // ---- numbers
+
+  private static int draw(int most) {
     series = series * 6364136223846793005L + 1442695040888963407L;
     return (int) ((series >>> 33) % most);
   }
 
-  /** Each call goes by this, so that none is one too many. */
-  private FloodFerry call() {
-    calls++;
-    return ferry;
+  /** A number from the one to the other; now and then one at a bound, or behind it. */
+  private static int from(int least, int most) {
+    switch (draw(40)) {
+      case 0: return least;
+      case 1: return most;
+      case 2: return draw(2) == 0 ? least - 1 : most + 1;
+      case 3: return draw(9) > 0 ? most : draw(2) == 0 ? Integer.MIN_VALUE : Integer.MAX_VALUE;
+      default: return least > most ? least : least + draw(most - least + 1);
+    }
   }
 
-  private void due(String what, long got, long want) {
-    Check.due(where + ", call " + calls + ": " + what, got, want);
+  private int column() {
+    return draw(3) == 0 ? from(0, 13) : draw(kind.side);
   }
+
+  private int ground() {
+    return draw(6) == 0 ? from(0, 20) : 2 + draw(6);
+  }
+
+  private int level() {
+    return draw(5) == 0 ? from(0, 24) : 7 + draw(5);
+  }
+
+  private int landing() {
+    return from(0, pair.landings() - 1);
+  }
+
+  private int punt() {
+    return from(0, pair.punts() - 1);
+  }
+
+  private int traveller() {
+    return from(0, pair.travellers() - 1);
+  }
+
+  // ---- a run
 
   private void run(int run) {
-    ferry = new FloodFerry();
-    model = new Model();
-    calls = 0;
-    where = "run " + run;
     for (int hour = 0; hour < 12 && run % 3 != 0; hour++) {
-      setWater(hour, 6 + draw(5));
+      pair.setWater(hour, 7 + draw(4));
     }
-    for (int left = draw(run % 2 == 0 ? 100 : 30); left > 0; left--) {
-      setGround(draw(14), draw(14), 2 + draw(8));
+    for (int left = draw(run % 2 == 0 ? 70 : 20); left > 0; left--) {
+      pair.setGround(column(), column(), ground());
     }
-    for (int left = 3 + draw(3); left > 0; left--) {
-      addLanding(draw(14), draw(14));
+    while (pair.landings() < kind.landings) {
+      pair.addLanding(draw(kind.side), draw(kind.side));
     }
-    for (int left = 2 + draw(4); left > 0; left--) {
+    while (pair.punts() < kind.punts) {
       launch();
     }
-    while (calls < CALLS - 1) {
+    while (pair.travellers() < kind.travellers) {
+      addTraveller();
+    }
+    while (pair.callsLeft() > 1) {
       step();
     }
-    due("digest()", call().digest(), digest());
+    pair.digest();
   }
 
   private void step() {
-    int kind = draw(20);
-    if (kind == 0) {
-      refuse();
-    } else if (kind < 8) {
+    int what = draw(20);
+    if (what < 9) {
       change();
-    } else if (kind < 19) {
+    } else if (what < 15) {
       ask();
-    } else {
+    } else if (what < 17) {
       lookAhead();
+    } else {
+      pair.digest();
     }
   }
 
   // ---- calls that change something
 
   private void change() {
-    switch (draw(12)) {
+    switch (draw(14)) {
       case 0:
-        setGround(draw(14), draw(14), 2 + draw(8));
-        break;
       case 1:
-        setWater(draw(12), draw(4) == 0 ? draw(25) : 6 + draw(6));
+        pair.setGround(column(), column(), ground());
         break;
       case 2:
-        int x = draw(14);
-        int y = draw(14);
-        int length = draw(10);
-        due("setStake", call().setStake(x, y, length), model.stake[x][y]);
-        model.stake[x][y] = length;
+        pair.setWater(from(0, 11), level());
         break;
       case 3:
-        addOrLaunch();
+        pair.setStake(column(), column(), from(0, 9));
         break;
       case 4:
-        setToll();
+        addOrLaunch();
         break;
       case 5:
+        pair.setToll(punt(), from(0, 50));
+        break;
       case 6:
+      case 7:
         addTraveller();
         break;
       default:
-        pass(draw(5) == 0 ? 1 + draw(60) : 1 + draw(8));
+        pair.pass(draw(6) == 0 ? from(1, kind.hoursAtMost) : 1 + draw(kind.hours));
     }
   }
 
+  /** Rarely, so that there are runs with few of them, and runs in which one comes late. */
   private void addOrLaunch() {
-    int chance = draw(20);
-    if (chance == 0) {
-      addLanding(draw(14), draw(14));
-    } else if (chance == 1) {
+    int chance = draw(12);
+    if (chance < 3) {
+      pair.addLanding(column(), column());
+    } else if (chance < 6) {
       launch();
     }
   }
 
-  private void setGround(int x, int y, int ground) {
-    due("setGround", call().setGround(x, y, ground), model.ground[x][y]);
-    model.ground[x][y] = ground;
-  }
-
-  private void setWater(int hour, int level) {
-    due("setWater", call().setWater(hour, level), model.table[hour]);
-    model.table[hour] = level;
-  }
-
-  private void addLanding(int x, int y) {
-    if (model.landings.size() < 8 && model.landingOn(x, y) < 0) {
-      model.landings.add(new int[] {x, y});
-      due("addLanding", call().addLanding(x, y), model.landings.size() - 1);
-    }
-  }
-
   private void launch() {
-    int home = draw(model.landings.size());
-    int goal = draw(model.landings.size());
-    if (home != goal && model.punts.size() < 6) {
-      int draught = 1 + draw(3);
-      int pole = 4 + draw(9);
-      int room = 1 + draw(6);
-      int toll = draw(20);
-      int number = model.launch(home, goal, draught, pole, room, toll);
-      due("launch", call().launch(home, goal, draught, pole, room, toll), number);
-    }
-  }
-
-  private void setToll() {
-    if (!model.punts.isEmpty()) {
-      int punt = draw(model.punts.size());
-      int toll = draw(30);
-      due("setToll", call().setToll(punt, toll), model.punts.get(punt).toll);
-      model.punts.get(punt).toll = toll;
-    }
+    int draught = draw(5) == 0 ? from(1, 4) : 1 + draw(2);
+    int pole = draw(5) == 0 ? from(2, 12) : 6 + draw(7);
+    pair.launch(landing(), landing(), draught, pole, from(1, 6), from(0, 50));
   }
 
   private void addTraveller() {
-    int from = draw(model.landings.size());
-    int to = draw(model.landings.size());
-    if (from != to && model.travellers.size() < 30) {
-      int purse = draw(3) == 0 ? draw(15) : draw(200);
-      int number = model.addTraveller(from, to, purse);
-      due("addTraveller", call().addTraveller(from, to, purse), number);
-    }
-  }
-
-  private void pass(int hours) {
-    int came = 0;
-    for (int hour = 0; hour < hours; hour++) {
-      came += model.hour();
-    }
-    due("pass(" + hours + ")", call().pass(hours), came);
+    int purse = draw(3) == 0 ? draw(80) : from(0, 1000);
+    pair.addTraveller(landing(), landing(), purse);
   }
 
   // ---- calls that tell something
 
   private void ask() {
-    int what = draw(11);
     switch (draw(7)) {
       case 0:
-        due("count", call().count(what), model.count(what));
+        pair.count(from(0, 10));
         break;
       case 1:
-        int x = draw(14);
-        int y = draw(14);
-        due("cell", call().cell(x, y, what % 6), model.cell(x, y, what % 6));
+        pair.cell(column(), column(), from(0, 5));
         break;
       case 2:
-        int landing = draw(model.landings.size());
-        due("landing", call().landing(landing, what % 5), model.landing(landing, what % 5));
+        pair.landing(landing(), from(0, 4));
         break;
       case 3:
-        int from = draw(model.landings.size());
-        int to = draw(model.landings.size());
-        due("chain", call().chain(from, to, what % 3), model.chain(from, to)[what % 3]);
+        pair.chain(landing(), landing(), from(0, 2));
         break;
       case 4:
-        Check.due(where + ", call " + calls + ": mean", call().mean(), model.mean());
+        pair.mean();
         break;
       case 5:
-        askOfPunt(what % 9);
+        pair.punt(punt(), from(0, 8));
         break;
       default:
-        askOfTraveller(what % 7);
-    }
-  }
-
-  private void askOfPunt(int what) {
-    if (!model.punts.isEmpty()) {
-      int punt = draw(model.punts.size());
-      due("punt(" + punt + ", " + what + ")", call().punt(punt, what), model.punt(punt, what));
-    }
-  }
-
-  private void askOfTraveller(int what) {
-    if (!model.travellers.isEmpty()) {
-      int traveller = draw(model.travellers.size());
-      String asked = "traveller(" + traveller + ", " + what + ")";
-      due(asked, call().traveller(traveller, what), model.traveller(traveller, what));
+        pair.traveller(traveller(), from(0, 6));
     }
   }
 
   private void lookAhead() {
-    if (model.punts.isEmpty()) {
-      return;
-    }
-    int punt = draw(model.punts.size());
     switch (draw(5)) {
       case 0:
-        due("opens", call().opens(punt), model.opens(punt));
+        pair.opens(punt());
         break;
       case 1:
-        int hours = 1 + draw(100);
-        due("aground(.., " + hours + ")", call().aground(punt, hours), model.aground(punt, hours));
+        pair.aground(punt(), from(1, 100));
         break;
       case 2:
-        if (!model.travellers.isEmpty()) {
-          int traveller = draw(model.travellers.size());
-          due("arrives", call().arrives(traveller), model.arrives(traveller));
-        }
+        pair.arrives(traveller());
         break;
       default:
-        int level = draw(25);
-        due("crossing", call().crossing(punt, level), model.crossing(punt, level));
+        pair.crossing(punt(), from(0, 24));
     }
-  }
-
-  // ---- calls that are refused
-
-  private void refuse() {
-    int kind = draw(8);
-    String got = "an answer";
-    try {
-      refused(kind);
-    } catch (IndexOutOfBoundsException e) {
-      got = "index";
-    } catch (IllegalArgumentException e) {
-      got = "argument";
-    } catch (IllegalStateException e) {
-      got = "state";
-    }
-    String want = kind < 4 ? "index" : kind < 7 ? "argument" : "state";
-    Check.due(where + ", call " + calls + ": the refused call " + kind, got, want);
-  }
-
-  private void refused(int kind) {
-    int[] first = model.landings.get(0);
-    switch (kind) {
-      case 0:
-        call().setGround(draw(14), 14, draw(21));
-        break;
-      case 1:
-        call().launch(0, model.landings.size(), 1, 12, 1, 0);
-        break;
-      case 2:
-        call().addTraveller(model.landings.size(), 0, 0);
-        break;
-      case 3:
-        call().setToll(model.punts.size(), 0);
-        break;
-      case 4:
-        call().setWater(draw(12), 25);
-        break;
-      case 5:
-        call().launch(0, 1, 1, 12, 7, 0);
-        break;
-      case 6:
-        call().pass(101);
-        break;
-      default:
-        call().addLanding(first[0], first[1]);
-    }
-  }
-
-  private long digest() {
-    long sum = 557;
-    for (int what = 0; what < 11; what++) {
-      sum = sum * 31 + model.count(what);
-    }
-    for (int level : model.table) {
-      sum = sum * 31 + level;
-    }
-    for (int cell = 0; cell < 196; cell++) {
-      sum = sum * 31 + model.ground[cell % 14][cell / 14];
-      sum = sum * 31 + model.stake[cell % 14][cell / 14];
-    }
-    for (int landing = 0; landing < model.landings.size(); landing++) {
-      for (int what = 0; what < 5; what++) {
-        sum = sum * 31 + model.landing(landing, what);
-      }
-    }
-    for (int punt = 0; punt < model.punts.size(); punt++) {
-      for (int what = 0; what < 9; what++) {
-        sum = sum * 31 + model.punt(punt, what);
-      }
-    }
-    for (int traveller = 0; traveller < model.travellers.size(); traveller++) {
-      for (int what = 0; what < 7; what++) {
-        sum = sum * 31 + model.traveller(traveller, what);
-      }
-    }
-    return sum;
   }
 }

@@ -17,6 +17,7 @@ final class PlainEdgesTest {
     cellsByTheirNumbers();
     groundFromZeroToTwenty();
     groundRefused();
+    newGroundLeavesAllElse();
     hoursOfTheTable();
     levelFromZeroToTwentyFour();
     waterRefused();
@@ -31,6 +32,7 @@ final class PlainEdgesTest {
     stakeSeenIfDepthIsLess();
     noStakeIsNeverSeen();
     stakesEverywhere();
+    aStakeIsNothingToAllElse();
     landingOfACell();
     puntsOnACell();
     Check.end();
@@ -198,6 +200,23 @@ final class PlainEdgesTest {
     Check.index("no cell, and ground -1", ferry, () -> ferry.setGround(6, 14, -1));
     Check.index("no cell, and ground 21", ferry, () -> ferry.setGround(-1, 7, 21));
     Check.due("ground before is as it was", ferry.setGround(6, 7, 12), 11);
+  }
+
+  /** The same: its stake, its landing and the punts there stay, whatever the ground is. */
+  private static void newGroundLeavesAllElse() {
+    FloodFerry ferry = ferryBetween(13, 6, 12, 6);
+    ferry.setStake(13, 6, 7);
+    for (int round = 0; round <= 41; round++) {
+      int ground = round <= 20 ? round : 41 - round;
+      ferry.setGround(13, 6, ground);
+      int depth = Math.max(0, 8 - ground);
+      int[] answers = {ground, depth, 7, depth < 7 ? 1 : 0, 0, 1};
+      for (int what = 0; what < answers.length; what++) {
+        String call = "ground " + ground + ": cell(13, 6, " + what + ")";
+        Check.due(call, ferry.cell(13, 6, what), answers[what]);
+      }
+      Check.due("ground " + ground + ": crossing", ferry.crossing(0, 8), depth > 0 ? 1 : -1);
+    }
   }
 
   /** "hour: an hour of the table, 0 to 11". */
@@ -398,6 +417,24 @@ final class PlainEdgesTest {
     Check.due("at the depth 4", ferry.count(10), 0);
     ferry.setGround(13, 13, 6);
     Check.due("at the depth 3 in one cell", ferry.count(10), 1);
+  }
+
+  /** "stakes mark the ground": a landing can be built there, and punts go over it. */
+  private static void aStakeIsNothingToAllElse() {
+    FloodFerry ferry = new FloodFerry();
+    for (int x = 2; x <= 4; x++) {
+      ferry.setStake(x, 3, 9);
+    }
+    Check.due("a landing where a stake is", ferry.addLanding(2, 3), 0);
+    Check.due("a landing where a stake is", ferry.addLanding(4, 3), 1);
+    ferry.launch(0, 1, 1, 12, 1, 0);
+    ferry.setStake(2, 3, 8);
+    Check.due("a stake where a landing is", ferry.cell(2, 3, 2), 8);
+    Check.due("the way goes over stakes", ferry.crossing(0, 8), 2);
+    ferry.pass(2);
+    Check.due("and so does the punt", ferry.punt(0, 0) * 100 + ferry.punt(0, 1), 403);
+    Check.due("it is not aground", ferry.punt(0, 5), 0);
+    Check.due("all are to be seen", ferry.count(10), 3);
   }
 
   /** "4 its landing, -1 if there is none". */
